@@ -101,12 +101,21 @@ public final class BillTest {
         x.pass(0, 0, 7, 3);
         CHECKS.due("told last of like days", x.holder(0, 9, 9), 2);
         x.pass(0, 2, 8, 9);
+        CHECKS.due("on the last day", x.holder(0, 9, 9), 8);
         x.pass(0, 2, 0, 5);
         CHECKS.due("in between", x.holder(0, 9, 9), 0);
         x.pass(0, 0, 2, 0);
         CHECKS.due("ahead of all", x.holder(0, 9, 9), 0);
         CHECKS.due("ahead of all at the end of day 0", x.holder(0, 0, 9), 2);
         CHECKS.due("ahead of all at the end of day 4", x.holder(0, 4, 9), 2);
+        x.bill(5, 0, 0);
+        x.pass(1, 1, 2, 5);
+        x.pass(1, 2, 3, 6);
+        CHECKS.due("not with those hands", x.holder(1, 9, 9), 0);
+        x.pass(1, 0, 1, 4);
+        CHECKS.due("all three by their days", x.holder(1, 9, 9), 3);
+        CHECKS.due("two of them", x.holder(1, 5, 9), 2);
+        CHECKS.due("the other bill is where it was", x.holder(0, 9, 9), 0);
     }
 
     private static void untelling() {

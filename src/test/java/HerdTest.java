@@ -11,10 +11,13 @@ public final class HerdTest {
         whoComesFirstEats();
         restAndSell();
         sellAll();
+        sellAllButOne();
         footsore();
         allLeft();
         hunger();
+        manyDead();
         weightLimits();
+        walkWithoutWeight();
         fairSells();
         CHECKS.close();
     }
@@ -139,6 +142,19 @@ public final class HerdTest {
         tells(x, 0, 0, 297, 20, 1, 10 * 297 * 1000 / 200, 0, 10, 0, 1, 10);
     }
 
+    private static void sellAllButOne() {
+        DroveRoads x = new DroveRoads();
+        x.first(20);
+        x.stance(20);
+        x.herd(2, 300, 1, 0);
+        x.days(1);
+        Checks.orders(x, 0, "when 1 do sell 1;");
+        x.days(1);
+        tells(x, 0, 1, 288, 5, 1, 0, 0, 1);
+        x.days(1);
+        tells(x, 0, 0, 288, 5, 1, 0, 0, 2);
+    }
+
     private static void footsore() {
         DroveRoads x = new DroveRoads();
         x.first(30);
@@ -197,6 +213,30 @@ public final class HerdTest {
         x.days(30);
         CHECKS.due("all are dead", x.of(0, 7), 25);
         CHECKS.due("no heads", x.of(0, 0), 0);
+    }
+
+    private static void manyDead() {
+        DroveRoads x = new DroveRoads();
+        x.herd(500, 100, 20, 0);
+        Checks.orders(x, 0, "when 1 do rest;");
+        x.days(6);
+        tells(x, 0, 449, 76, 0, 0, 0, 0, 0, 51);
+        x.days(1);
+        tells(x, 0, 404, 72, 0, 0, 0, 0, 0, 96);
+    }
+
+    private static void walkWithoutWeight() {
+        DroveRoads x = new DroveRoads();
+        x.first(30);
+        x.stance(30);
+        x.grass(1, 100000, 0, 100000);
+        x.herd(500, 100, 1, 0);
+        Checks.orders(x, 0, "when weight and stance=0 do rest;");
+        x.days(25);
+        CHECKS.due("no weight", x.of(0, 1), 0);
+        x.days(1);
+        CHECKS.due("walked", x.of(0, 3), 1);
+        CHECKS.due("one for the grass", x.of(0, 1), 1);
     }
 
     private static void weightLimits() {

@@ -18,6 +18,8 @@ public final class OrdersTest {
         values();
         names();
         firstLine();
+        eachItsOwn();
+        manyOrders();
         CHECKS.close();
     }
 
@@ -168,6 +170,8 @@ public final class OrdersTest {
 
     private static void noNames() {
         faulty("when foo do walk;", 3, 5);
+        faulty("when a do walk;", 3, 5);
+        faulty("when z do walk;", 3, 5);
         faulty("when days do walk;", 3, 5);
         faulty("when da do walk;", 3, 5);
         faulty("when head do walk;", 3, 5);
@@ -256,6 +260,10 @@ public final class OrdersTest {
         holds(x, "0-5<0-4", true);
         holds(x, "(1<2)=1", true);
         holds(x, "(2<1)=0", true);
+        holds(x, "(2>1)=1", true);
+        holds(x, "(1>2)=0", true);
+        holds(x, "(2=2)=1", true);
+        holds(x, "(1=2)=0", true);
         holds(x, "(5 and 7)=1", true);
         holds(x, "(5 or 0)=1", true);
         holds(x, "(0 or 0)=0", true);
@@ -318,6 +326,31 @@ public final class OrdersTest {
         CHECKS.due("no line holds", Checks.orders(x, 0, "when 0 do rest;when 1-1 do sell 2;"), 2);
         x.days(1);
         CHECKS.due("walks then", x.of(0, 3), 1);
+    }
+
+    private static void eachItsOwn() {
+        DroveRoads x = withHerd();
+        x.herd(50, 300, 1, 0);
+        x.herd(50, 300, 1, 0);
+        Checks.orders(x, 0, "when 1 do sell 1;");
+        Checks.orders(x, 1, "when 1 do sell 2;");
+        Checks.orders(x, 2, "when 1 do sell 3;");
+        Checks.orders(x, 1, "when 0 do walk;when 1 do sell 4;");
+        CHECKS.due("faulty orders", Checks.orders(x, 2, "when 1 do sell 5;when 1 do sell 6;?"), -1);
+        x.days(1);
+        CHECKS.due("the first herd", x.of(0, 6), 1);
+        CHECKS.due("the second herd", x.of(1, 6), 4);
+        CHECKS.due("the third herd", x.of(2, 6), 3);
+    }
+
+    private static void manyOrders() {
+        DroveRoads x = withHerd();
+        String text = "when 0" + "+1-1".repeat(39) + " do walk;when 1 do sell 1;";
+        for (int k = 0; k < 20; k++) {
+            CHECKS.due("orders again", Checks.orders(x, 0, text), 2);
+            x.days(1);
+            CHECKS.due("sold so far", x.of(0, 6), k + 1);
+        }
     }
 
     private static DroveRoads withHerd() {
