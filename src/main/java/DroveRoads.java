@@ -1,8 +1,8 @@
 /**
  * A road along which herds are driven to a fair, with the letters, orders and bills that go with it.
  *
- * The words in the comments are those of the document (../shared/DOC.md). Every row is made once, in a
- * constructor, and used again: a run of calls makes objects only for the road and for each new HERD.
+ * The words in capitals are those of the document (../shared/DOC.md). Every row is made once, with the object
+ * or with a HERD, and used again, since all that a run of calls makes stays in one room.
  */
 public final class DroveRoads {
 
@@ -25,14 +25,15 @@ public final class DroveRoads {
 
     private final Road road = new Road();
     private final Letters letters = new Letters();
-    private final LoneWay loneWay = new LoneWay(road);
     private final Bills bills = new Bills();
     private final Herd[] herds = new Herd[MOST_HERDS];
     private final byte[] tape = new byte[MOST_BYTES];
-    private final Parser parser = new Parser(tape);
     private final Reckoner reckoner = new Reckoner();
+    private Orders spareOrders = new Orders();
     private int herdCount = 0;
     private int tapeBytes = 0;
+    private int latestFault = 0;
+    private int latestFaultPlace = NONE;
     private int today = 0;
 
     public DroveRoads() {
@@ -101,19 +102,24 @@ public final class DroveRoads {
         if (told == null) {
             return NO_HERD;
         }
-        boolean faultless = parser.read(tapeBytes);
+        Parser parser = new Parser(tape, tapeBytes, spareOrders);
+        boolean faultless = parser.read();
+        latestFault = parser.fault;
+        latestFaultPlace = parser.faultPlace;
         tapeBytes = 0;
         if (!faultless) {
             return NONE;
         }
-        told.orders = parser.handOver(told.orders);
+        Orders former = told.orders;
+        told.orders = spareOrders;
+        spareOrders = former;
         return told.orders.lines;
     }
 
     public int fault(int what) {
         switch (what) {
-            case 0: return parser.fault;
-            case 1: return parser.faultPlace;
+            case 0: return latestFault;
+            case 1: return latestFaultPlace;
             default: return NONE;
         }
     }
@@ -139,15 +145,18 @@ public final class DroveRoads {
     }
 
     public int gain(int herd, int d) {
-        return hasBest(herd, d) ? loneWay.bestGain(d) : NO_WAY;
+        LoneWay way = findWay(herd, d);
+        return way == null ? NO_WAY : way.bestGain();
     }
 
     public int length(int herd, int d) {
-        return hasBest(herd, d) ? d : NONE;
+        LoneWay way = findWay(herd, d);
+        return way == null ? NONE : way.days;
     }
 
     public int act(int herd, int d, int k) {
-        return hasBest(herd, d) ? loneWay.bestAct(d, k) : NONE;
+        LoneWay way = findWay(herd, d);
+        return way == null ? NONE : way.bestAct(k);
     }
 
     public int bill(int amount, int hand, int due) {
@@ -209,14 +218,14 @@ public final class DroveRoads {
         }
     }
 
-    /** Whether BEST can be asked for and there is one; loneWay stands where the HERD does then. */
-    private boolean hasBest(int herd, int d) {
+    /** BEST for a HERD ALONE; null if it can't be asked for, or there is no WAY. */
+    private LoneWay findWay(int herd, int d) {
         Herd asked = findHerd(herd);
-        if (asked == null || asked.heads == 0) {
-            return false;
+        if (asked == null || asked.heads == 0 || !within(d, 1, LoneWay.MOST_DAYS)) {
+            return null;
         }
-        loneWay.setOut(asked.stance, asked.sore);
-        return loneWay.comesToFair(d);
+        LoneWay way = new LoneWay(road, asked.stance, asked.sore, d);
+        return way.comesToFair() ? way : null;
     }
 
     private void passDay() {
@@ -567,18 +576,13 @@ public final class DroveRoads {
         int place = 0;
         int number = 0;
         private final byte[] text;
-        private int length = 0;
+        private final int length;
         private int next = 0;
 
-        Lexer(byte[] text) {
-            this.text = text;
-        }
-
-        /** Begins anew with so many first bytes of the text. */
-        void open(int bytes) {
-            length = Math.min(bytes, text.length);
-            next = 0;
-            advance();
+        /** The text is so many first bytes of a row. */
+        Lexer(byte[] row, int bytes) {
+            text = row;
+            length = Math.min(bytes, row.length);
         }
 
         void advance() {
@@ -669,26 +673,17 @@ public final class DroveRoads {
         int fault = 0;
         int faultPlace = NONE;
         private final Lexer lexer;
-        private Orders written = new Orders();
+        private final Orders written;
         private int operands = 0;
 
-        Parser(byte[] text) {
-            lexer = new Lexer(text);
+        Parser(byte[] row, int bytes, Orders into) {
+            lexer = new Lexer(row, bytes);
+            written = into;
         }
 
-        /** The ORDERS that were read, for those that they follow, which are written over next. */
-        Orders handOver(Orders former) {
-            Orders latest = written;
-            written = former;
-            return latest;
-        }
-
-        boolean read(int bytes) {
+        boolean read() {
             written.clear();
-            operands = 0;
-            fault = 0;
-            faultPlace = NONE;
-            lexer.open(bytes);
+            lexer.advance();
             for (int line = 0; line < MOST_LINES; line++) {
                 if (lexer.token == Lexer.END) {
                     return true;
@@ -916,30 +911,25 @@ public final class DroveRoads {
      * WAYS of D days the first walks as soon as it may, and only its last walk waits for the last day.
      */
     private static final class LoneWay {
-        private static final int MOST_DAYS = 60;
+        static final int MOST_DAYS = 60;
 
+        final int days;
         private final Road road;
-        private int startStance = 0;
-        private int startSore = 0;
+        private final int startStance;
+        private final int startSore;
 
-        LoneWay(Road road) {
+        LoneWay(Road road, int stance, int sore, int days) {
             this.road = road;
-        }
-
-        void setOut(int stance, int sore) {
+            this.days = days;
             startStance = stance;
             startSore = sore;
         }
 
-        boolean comesToFair(int days) {
-            return within(days, 1, MOST_DAYS) && fewestDays() <= days;
-        }
-
-        private int fewestDays() {
+        /** Whether it is there in time if it walks whenever it may. */
+        boolean comesToFair() {
             int stance = startStance;
             int sore = startSore;
-            int days = 0;
-            for (; days <= MOST_DAYS && stance < road.fair(); days++) {
+            for (int day = 0; day < days && stance < road.fair(); day++) {
                 if (mayWalk(stance, sore)) {
                     sore += road.milesOfStage(stance);
                     stance++;
@@ -947,10 +937,10 @@ public final class DroveRoads {
                     sore = rested(sore);
                 }
             }
-            return days;
+            return stance == road.fair();
         }
 
-        int bestGain(int days) {
+        int bestGain() {
             int change = 0;
             for (int k = startStance; k < road.fair(); k++) {
                 change -= road.milesOfStage(k) / 5;
@@ -960,7 +950,7 @@ public final class DroveRoads {
             return change + (walks - 1) + 3 * (days - walks);
         }
 
-        int bestAct(int days, int asked) {
+        int bestAct(int asked) {
             int stance = startStance;
             int sore = startSore;
             for (int day = 0; day < days; day++) {
