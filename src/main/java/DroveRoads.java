@@ -684,19 +684,11 @@ public final class DroveRoads {
         boolean read() {
             written.clear();
             lexer.advance();
-            for (int line = 0; line < MOST_LINES; line++) {
-                if (lexer.token == Lexer.END) {
-                    return true;
-                }
-                if (!readLine()) {
-                    return false;
-                }
+            boolean stands = true;
+            for (int line = 0; line < MOST_LINES && stands && lexer.token != Lexer.END; line++) {
+                stands = take(Lexer.WHEN) && readE(0) && take(Lexer.DO) && readAct() && take(Lexer.SEMICOLON);
             }
-            return lexer.token == Lexer.END || refuse();
-        }
-
-        private boolean readLine() {
-            return take(Lexer.WHEN) && readE(0) && take(Lexer.DO) && readAct() && take(Lexer.SEMICOLON);
+            return stands && take(Lexer.END);
         }
 
         private boolean readAct() {

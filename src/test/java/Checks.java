@@ -1,6 +1,22 @@
+import java.io.IOException;
+import java.nio.file.Files;
+import java.nio.file.Path;
+import java.util.Arrays;
+import java.util.function.Consumer;
+import java.util.function.ToIntFunction;
+
 /** Counts answers that are not as due, and ends a test with exit code 1 if there was one. */
 final class Checks {
+    static final int LEAST = Integer.MIN_VALUE;
+    static final int GREATEST = Integer.MAX_VALUE;
+
+    private static final Path DOCUMENT = Path.of("../shared/DOC.md");
+
     private final String test;
+    private String document = "";
+    private String sentence = "";
+    private int sentences = 0;
+    private int doneBefore = 0;
     private int done = 0;
     private int wrong = 0;
 
@@ -8,11 +24,53 @@ final class Checks {
         this.test = test;
     }
 
+    /** The checks that follow are about these words, which must stand in the document. */
+    void says(String words) {
+        endSentence();
+        sentence = " [" + words + "]";
+        sentences++;
+        holds("these words stand in the document", document().contains(oneLine(words)));
+        doneBefore = done;
+    }
+
+    private void endSentence() {
+        if (sentences > 0 && done == doneBefore) {
+            holds("there is a check", false);
+        }
+    }
+
+    private String document() {
+        if (document.isEmpty()) {
+            try {
+                document = oneLine(Files.readString(DOCUMENT));
+            } catch (IOException e) {
+                System.out.println(test + ": can't read " + DOCUMENT + ": " + e);
+            }
+        }
+        return document;
+    }
+
+    private static String oneLine(String text) {
+        return text.replaceAll("\\s+", " ");
+    }
+
+    /** The call answers so, and the object is then as one on which it was not made. */
+    void refused(String call, Consumer<DroveRoads> making, ToIntFunction<DroveRoads> refusal, int want) {
+        DroveRoads asked = new DroveRoads();
+        DroveRoads twin = new DroveRoads();
+        making.accept(asked);
+        making.accept(twin);
+        due(call, refusal.applyAsInt(asked), want);
+        int[] got = Probe.of(asked);
+        int[] alike = Probe.of(twin);
+        holds(call + " changes nothing", Arrays.equals(got, alike));
+    }
+
     void due(String call, long got, long want) {
         done++;
         if (got != want) {
             wrong++;
-            System.out.println(test + ": " + call + " answered " + got + ", due is " + want);
+            System.out.println(test + ": " + call + " answered " + got + ", due is " + want + sentence);
         }
     }
 
@@ -24,12 +82,14 @@ final class Checks {
         done++;
         if (!holds) {
             wrong++;
-            System.out.println(test + ": does not hold: " + what);
+            System.out.println(test + ": does not hold: " + what + sentence);
         }
     }
 
     void close() {
-        System.out.println(test + ": " + done + " answers, " + wrong + " not as due");
+        endSentence();
+        String about = sentences == 0 ? "" : " about " + sentences + " sentences";
+        System.out.println(test + ": " + done + " answers" + about + ", " + wrong + " not as due");
         if (wrong != 0 || done == 0) {
             System.exit(1);
         }
