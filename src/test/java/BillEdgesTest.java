@@ -17,6 +17,7 @@ public final class BillEdgesTest {
         fromTheFirstHand();
         daysUpToD();
         inOrderOfDays();
+        manyOrders();
         likeDaysAsTold();
         toldOnK();
         untoldOnK();
@@ -210,6 +211,41 @@ public final class BillEdgesTest {
         CHECKS.due("as known the day ahead", x.holder(0, 10, 9), 3);
     }
 
+    /** Each row has the days of passings from 0 to 1, from 1 to 2, .. in the order in which they are told. */
+    private static void manyOrders() {
+        CHECKS.says("in order of their days (of like ones as they were told)");
+        int[][] rows = {{3, 5, 4, 1, 2}, {5, 3, 4, 2, 1}, {1, 3, 2, 5, 4}, {2, 2, 1, 1, 3}, {4, 4, 4, 1, 1},
+            {0, 5, 1, 4, 2}, {5, 5, 0, 0, 5}, {1, 2, 3, 4, 5}, {5, 4, 3, 2, 1}};
+        for (int[] row : rows) {
+            DroveRoads x = withBill(5);
+            for (int k = 0; k < row.length; k++) {
+                x.pass(0, k, k + 1, row[k]);
+            }
+            for (int d = 0; d <= 5; d++) {
+                CHECKS.due("forward, at the end of " + d, x.holder(0, d, 5), holder(row, d, false));
+            }
+            DroveRoads y = withBill(5);
+            for (int k = row.length - 1; k >= 0; k--) {
+                y.pass(0, k, k + 1, row[k]);
+            }
+            for (int d = 0; d <= 5; d++) {
+                CHECKS.due("backward, at the end of " + d, y.holder(0, d, 5), holder(row, d, true));
+            }
+        }
+    }
+
+    /** Day by day, and those of a day as they were told. */
+    private static int holder(int[] row, int d, boolean backward) {
+        int hand = 0;
+        for (int day = 0; day <= d; day++) {
+            for (int n = 0; n < row.length; n++) {
+                int k = backward ? row.length - 1 - n : n;
+                hand = row[k] == day && hand == k ? k + 1 : hand;
+            }
+        }
+        return hand;
+    }
+
     private static void likeDaysAsTold() {
         CHECKS.says("(of like ones as they were told)");
         DroveRoads x = withBill(9);
@@ -363,7 +399,7 @@ public final class BillEdgesTest {
 
     private static void untellRefused() {
         CHECKS.says("A PASSING is UNTOLD: true; false if there is none such, or it is so already.");
-        for (int passing : new int[] {-1, 3, 59, 60, LEAST, GREATEST}) {
+        for (int passing : new int[] {-1, 4, 59, 60, LEAST, GREATEST}) {
             CHECKS.refused("untell(" + passing + ")", Scenes::busy, x -> x.untell(passing) ? 1 : 0, 0);
         }
         CHECKS.refused("untell(2), untold already", Scenes::busy, x -> x.untell(2) ? 1 : 0, 0);
@@ -398,7 +434,7 @@ public final class BillEdgesTest {
         for (int bill : new int[] {-1, 2, 19, 20, LEAST, GREATEST}) {
             CHECKS.due("holder(" + bill + ", 2, 2)", x.holder(bill, 2, 2), -1);
         }
-        CHECKS.due("holder(0, 2, 2)", x.holder(0, 2, 2), 5);
+        CHECKS.due("holder(0, 2, 2)", x.holder(0, 2, 2), 6);
         CHECKS.due("holder(1, 2, 2)", x.holder(1, 2, 2), 6);
     }
 
@@ -433,7 +469,7 @@ public final class BillEdgesTest {
         Scenes.busy(x);
         x.pay(0);
         x.days(1);
-        x.pass(0, 5, 8, 3);
+        x.pass(0, 6, 8, 3);
     }
 
     private static void paidAsked() {

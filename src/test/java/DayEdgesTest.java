@@ -76,12 +76,22 @@ public final class DayEdgesTest {
 
     private static void withoutHeads() {
         CHECKS.says("each whose START is t or before, which has HEADS");
-        DroveRoads x = ordered(Scenes.green(30, 30, 30), 4, 200, "when stance = 1 do sell 4;");
+        DroveRoads x = ordered(Scenes.green(30, 30, 30), 4, 200, "when day = 1 do sell 4;");
         x.days(2);
-        int[] want = {0, 195, 30, 1, 0, 0, 4, 0, 1, 4};
+        staysSo("sold on the way", x, 0, 195, 30, 1, 0, 0, 4, 0, 1, 4);
+        DroveRoads y = Scenes.green(30, 30);
+        y.herd(4, 200, 1, 0);
+        y.days(2);
+        staysSo("sold at the fair", y, 0, 189, 60, 2, 0, 0, 4, 0, 0, 4);
+        DroveRoads z = ordered(Scenes.bare(30), 1, 103, "when day < 6 do rest;");
+        z.days(6);
+        staysSo("dead", z, 0, 79, 0, 0, 0, 0, 0, 1, 1, 0);
+    }
+
+    private static void staysSo(String when, DroveRoads x, int... want) {
         for (int days = 0; days < 3; days++) {
             for (int what = 0; what < want.length; what++) {
-                tells("sold out", x, 0, what, want[what]);
+                tells(when, x, 0, what, want[what]);
             }
             x.days(1);
         }

@@ -28,6 +28,7 @@ public final class OrdersEdgesTest {
         noLetterBehindADigit();
         noNames();
         names();
+        keysAreWhole();
         namesAtTheirEdges();
         eightLines();
         eightyOperands();
@@ -45,6 +46,7 @@ public final class OrdersEdgesTest {
         ending();
         endRefused();
         ordersTaken();
+        fullOrdersAgain();
         ordersFaulty();
         noSuchHerd();
         faultAsked();
@@ -232,6 +234,11 @@ public final class OrdersEdgesTest {
         faultyE("day(2)", 2, 3);
         faultyE("(1;", 2, 2);
         faultyE("(when)", 2, 1);
+        for (char sign : ";<>=+-)".toCharArray()) {
+            faultyE("" + sign, 2, 0);
+            faultyE("1+" + sign, 2, 2);
+            faultyE("not " + sign, 2, 4);
+        }
     }
 
     private static void wordBytes() {
@@ -418,6 +425,28 @@ public final class OrdersEdgesTest {
             faultyE(name.substring(0, name.length() - 1), 3, 0);
             faulty("when 1 do " + name + ";", 2, 10);
             faulty(name, 2, 0);
+            for (int k = 0; k < name.length(); k++) {
+                faultyE(name.substring(0, k) + "q" + name.substring(k + 1), 3, 0);
+            }
+        }
+    }
+
+    private static void keysAreWhole() {
+        CHECKS.says("2 one that can't stand there");
+        String text = "when not 1 and 2 or 3 do sell 4;";
+        stands(text, 1);
+        for (int k = 0; k < text.length(); k++) {
+            if (isLetter(text.charAt(k))) {
+                String other = text.substring(0, k) + "q" + text.substring(k + 1);
+                int word = text.lastIndexOf(' ', k) + 1;
+                // A word that is not "not" could be a NAME there.
+                faulty(other, word == 5 ? 3 : 2, word);
+            }
+        }
+        for (String act : new String[] {"walk", "rest"}) {
+            for (int k = 0; k < act.length(); k++) {
+                faulty("when 1 do " + act.substring(0, k) + "q" + act.substring(k + 1) + ";", 2, 10);
+            }
         }
     }
 
@@ -746,6 +775,23 @@ public final class OrdersEdgesTest {
         CHECKS.due("of(0, 8)", x.of(0, 8), 8);
         CHECKS.due("orders(0) of an empty tape", x.orders(0), 0);
         CHECKS.due("of(0, 8)", x.of(0, 8), 0);
+        int[] counts = {1, 8, 0, 3, 8, 8, 2};
+        for (int lines : counts) {
+            CHECKS.due("orders(0) again", Checks.orders(x, 0, LINE.repeat(lines)), lines);
+            CHECKS.due("of(0, 8)", x.of(0, 8), lines);
+        }
+    }
+
+    private static void fullOrdersAgain() {
+        CHECKS.says("The TAPE (empty then) is the ORDERS of a HERD: how many lines");
+        DroveRoads x = withHerd();
+        for (int n = 1; n <= 12; n++) {
+            String text = "when 0" + "+1-1".repeat(38) + "+1-1 do walk;when 1 do sell " + n + ";";
+            CHECKS.due("orders(0) again", Checks.orders(x, 0, text), 2);
+            int sold = x.of(0, 6);
+            x.days(1);
+            CHECKS.due("sold by the latest ones", x.of(0, 6) - sold, n);
+        }
     }
 
     private static void ordersFaulty() {
@@ -761,6 +807,10 @@ public final class OrdersEdgesTest {
             CHECKS.due("orders again", Checks.orders(x, 0, text), -1);
             x.days(1);
             CHECKS.due("sold by the former ones", x.of(0, 6), 6);
+            CHECKS.due("orders without a fault", Checks.orders(x, 0, "when 1 do sell 4;"), 1);
+            CHECKS.due("lines", x.of(0, 8), 1);
+            x.days(1);
+            CHECKS.due("sold by the new ones", x.of(0, 6), 10);
         }
     }
 

@@ -30,6 +30,7 @@ public final class RoadEdgesTest {
         leftOnTheWay();
         aboutAsked();
         aboutCounts();
+        asksChangeNothing();
         CHECKS.close();
     }
 
@@ -164,6 +165,12 @@ public final class RoadEdgesTest {
         }
         x.days(3);
         CHECKS.due("no grass grows", x.at(0, 0), 0);
+        x.herd(1, 100, 1, 3);
+        x.days(1);
+        CHECKS.due("a herd walks one mile", x.of(0, 2), 1);
+        DroveRoads y = new DroveRoads();
+        y.stance(5);
+        CHECKS.due("miles with a stage more", y.at(0, 3), 6);
     }
 
     private static void stanceMore() {
@@ -396,6 +403,22 @@ public final class RoadEdgesTest {
         int[] full = {400, 10, 6, 30, 20, 60, 500};
         for (int what = 0; what < full.length; what++) {
             CHECKS.due("about(" + what + ") when full", x.about(what), full[what]);
+        }
+    }
+
+    private static void asksChangeNothing() {
+        CHECKS.says("Nothing is promised beyond the answers and state changes described above");
+        for (int asked : new int[] {-1, 0, 1, 2, 100, LEAST, GREATEST}) {
+            CHECKS.refused("known, of, at, fault, holder, paid, about of " + asked, Scenes::busy, x -> {
+                x.known(asked);
+                x.of(asked, asked);
+                x.at(asked, asked);
+                x.fault(asked);
+                x.holder(asked, asked, asked);
+                x.paid(asked, asked);
+                x.about(asked);
+                return 0;
+            }, 0);
         }
     }
 }

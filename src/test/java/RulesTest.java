@@ -74,9 +74,19 @@ public final class RulesTest {
             checkFields(c);
             for (Method m : c.getDeclaredMethods()) {
                 CHECKS.holds(m + " takes at most seven", m.getParameterCount() <= 7);
+                CHECKS.holds(m + " has a name of its own", !isOfTheFace(m.getName()));
             }
         }
         checkFields(DroveRoads.class);
+    }
+
+    private static boolean isOfTheFace(String name) {
+        for (String method : FACE) {
+            if (method.contains(" " + name + "(")) {
+                return true;
+            }
+        }
+        return false;
     }
 
     private static void checkFields(Class<?> c) {

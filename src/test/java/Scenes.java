@@ -30,6 +30,7 @@ final class Scenes {
         x.pass(1, 4, 6, 2);
         x.pass(1, 6, 7, 2);
         x.untell(2);
+        x.pass(0, 5, 6, 2);
         Checks.orders(x, 0, "when ?");
         Checks.type(x, "when stance = 1 do rest;");
     }
@@ -62,10 +63,12 @@ final class Scenes {
         }
     }
 
+    /** Each passes the bill on, to and fro. */
     static void sixtyPassings(DroveRoads x) {
         laid(x);
-        for (int k = 0; k < 60; k++) {
-            x.pass(0, 3 + k % 5, 4 + k % 5, 0);
+        for (int k = 0; k < 30; k++) {
+            x.pass(0, 3, 4, 0);
+            x.pass(0, 4, 3, 0);
         }
     }
 
